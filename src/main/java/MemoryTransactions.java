@@ -334,9 +334,11 @@ public final class MemoryTransactions {
         Client client = clients[number];
         Run run = client.run;
         boolean done = outcome == ENDS && store.takes(run.program, run.draft);
+        if (outcome == ENDS) {
+            run.thrown = done ? 0 : THROWN_BY_RULE;
+        }
         int kind = done ? ROW_DONE : ROW_THROWN;
-        long value = done ? 0 : outcome == ENDS ? THROWN_BY_RULE : run.thrown;
-        journal.note(kind, number, client.todo[0], run.steps + 1, client.cuts, value);
+        journal.note(kind, number, client.todo[0], run.steps + 1, client.cuts, run.thrown);
         client.finish();
         return done ? TURN_DONE : TURN_THROWN;
     }
@@ -605,7 +607,7 @@ public final class MemoryTransactions {
         }
 
         private void refuse() {
-            if (!isFaulty()) {
+            if (fault == NONE) {
                 fault = scanner.starts[at];
             }
         }
@@ -625,7 +627,7 @@ public final class MemoryTransactions {
         }
 
         private boolean isAt(int token) {
-            return !isFaulty() && token() == token;
+            return fault == NONE && scanner.tokens[at] == token;
         }
 
         private void expect(int token) {

@@ -4,7 +4,7 @@ import java.util.ArrayList;
 import java.util.List;
 import java.util.Random;
 
-/** Random runs of 512 calls: the program must answer each as the model does. */
+/** Random runs of 512 calls and more: the program must answer each as the model does. */
 public final class ModelTest {
     private static final long[] EDGES = {Long.MIN_VALUE, Long.MAX_VALUE, -1, 0, 1, 2, 3, 7};
 
@@ -61,6 +61,10 @@ public final class ModelTest {
         int got = x.turn(c);
         same("turn " + c, got, m.turn(c));
         turns[got + 1]++;
+        if (got == 5 && random.nextInt(3) != 0) {
+            int t = random.nextInt(12);
+            same("add " + c + " " + t, x.add(c, t), m.add(c, t));
+        }
         if (random.nextInt(4) == 0) {
             int what = some(9);
             same("client " + c + " " + what, x.client(c, what), m.client(c, what));
@@ -150,13 +154,15 @@ public final class ModelTest {
         }
         int clients = 1 + random.nextInt(8);
         int weight = 1 << random.nextInt(9);
+        // Some go far past 512 calls: so they come to 300 rows among all that can be on its way then.
+        int most = random.nextInt(8) == 0 ? 2500 : 512;
         for (int c = 0; c < clients; c++) {
             for (int k = random.nextInt(6); k > 0; k--) {
                 int t = random.nextInt(12);
                 same("add " + c + " " + t, x.add(c, t), m.add(c, t));
             }
         }
-        while (count < 512) {
+        while (count < most) {
             someCall(clients, weight);
         }
         observeAll();
