@@ -256,6 +256,10 @@ public final class PromiseTest {
         fault("a=1234567890;", 2);
         fault("a=0000000001;", 2);
         fault("iff(1){}", 0);
+        fault("of(1){}", 0);
+        fault("xlways a;", 0);
+        fault("alwayz a;", 0);
+        fault(times(800, ";"), 0);
         fault("else{}", 0);
         fault("or{}", 0);
         fault("catch q{}", 0);
@@ -324,7 +328,17 @@ public final class PromiseTest {
         right("a=-(-(-(-(1))))+-(-(-(-(1))));");
         right("if(" + times(8, "(") + "1" + times(8, ")") + "){}");
 
-        PromiseTest t = new PromiseTest("5 the latest that was read");
+        PromiseTest t = new PromiseTest("5 bytes behind the text");
+        t.x.feed(0x61616161, 0x61616161, 0, 0, 0);
+        t.x.end(1);
+        t.due("text", t.x.text(), -2);
+        t.due("place", t.x.place(), 1);
+        t.x.feed(0x613d3131, 0x31313131, 0x31313131, 0x3b3b3b3b, 0x3b3b3b3b);
+        t.x.end(3);
+        t.due("text", t.x.text(), -2);
+        t.due("place", t.x.place(), 3);
+
+        t = new PromiseTest("5 the latest that was read");
         t.due("text", t.text("a=;"), -2);
         t.due("place", t.x.place(), 2);
         t.due("place again", t.x.place(), 2);
@@ -362,8 +376,9 @@ public final class PromiseTest {
         }
         t.due("told(0, 3)", t.x.told(0, 3), NONE);
         t.due("told(8, 0)", t.x.told(8, 0), NONE);
-        t.text("a=");
+        t.text("if(1){if(1){a=1;");
         t.due("a text with a fault", t.x.told(8, 0), NONE);
+        t.isTold("if(a){}", 1, 1, 1);
     }
 
     private static void put() {
@@ -520,7 +535,17 @@ public final class PromiseTest {
         new PromiseTest("11 retry in catch").isDone("either{try{throw 1;}catch q{retry;}}or{a=5;}", 6, 5);
         new PromiseTest("11 either in while").isDone("q=3;while(q){q=q-1;either{a=a+1;if(q=1){retry;}}or{b=b+1;}}", 20, 2, 1);
         new PromiseTest("11 what was written ahead stays").isDone("a=1;b=1;try{a=2;throw 0;}catch q{}either{b=2;retry;}or{}", 9, 1, 1);
-        PromiseTest t = new PromiseTest("11 throw");
+        String deep = times(8, "if(1){") + "a=1;" + times(8, "}") + "b=1;";
+        new PromiseTest("11 out of eight bodies").isDone(deep, 11, 1, 1);
+        deep = "try{" + times(7, "if(1){") + "a=1;throw 5;" + times(7, "}") + "}catch q{b=q;}";
+        new PromiseTest("11 thrown out of eight bodies").isDone(deep, 12, 0, 5);
+        deep = "either{" + times(7, "either{") + "a=1;retry;" + times(7, "}or{retry;}") + "}or{b=6;}";
+        new PromiseTest("11 retry out of eight bodies").isDone(deep, 19, 0, 6);
+        PromiseTest t = new PromiseTest("11 each try has its own mark");
+        t.isDone("try{a=1;try{a=2;throw 1;}catch q{}b=a;throw 2;}catch r{c=r;}", 9, 0, 0, 2);
+        t.due("a is not written", t.x.version(A), 0);
+        t.due("b is not written", t.x.version(B), 0);
+        t = new PromiseTest("11 throw");
         t.due("thrown", t.does("a=1;throw 6*7;"), 2);
         t.isRow(0, 42, 2, 0, 0, 2, 0);
         t.isCells(0);
@@ -596,11 +621,13 @@ public final class PromiseTest {
         t.due("version", t.x.version(A), 2);
 
         t = new PromiseTest("11 what is read stays through try and either");
-        t.addText(0, "try{q=a;throw 1;}catch q{}either{q=b;retry;}or{}");
+        t.addText(0, "try{c=a;throw 1;}catch q{}either{d=b;retry;}or{}");
+        t.turns(0, 0, 0);
+        t.isClient(0, 2, 1, 0, 0, 2, 1, 4);
+        t.turns(0, 0);
+        t.isClient(0, 2, 1, 0, 0, 3, 1, 0);
         t.turns(0, 0, 0, 0);
-        t.isClient(0, 2, 1, 0, 0, 3, 1);
-        t.turns(0, 0, 0, 0);
-        t.isClient(0, 2, 1, 0, 0, 6, 3);
+        t.isClient(0, 2, 1, 0, 0, 6, 3, 0);
         t.x.put(B, 0);
         t.turns(0, 3);
 
@@ -634,10 +661,10 @@ public final class PromiseTest {
         t.x.put(A, 0);
         t.turns(0, 3);
         t.isClient(0, 1, 1, 0, 1, 0, 0);
-        t.turns(0, 0, 4);
+        t.turns(0, 0, 4, 4);
         t.isClient(0, 3, 1, 0, 1, 0, 1);
         t.x.put(A, 0);
-        t.turns(0, 0, 4);
+        t.turns(0, 0, 4, 4);
         t.isClient(0, 3, 1, 0, 1, 0, 1);
 
         t = new PromiseTest("11 waiting for nothing");
@@ -821,6 +848,11 @@ public final class PromiseTest {
         t.due("done", t.does("if(b=4){always d<1;}"), 1);
         t.due("rules", t.x.rules(), 4);
         t.due("replays", t.x.replays(), 1);
+
+        t = new PromiseTest("11 what a run would have written is gone");
+        t.due("done", t.does("b=3;"), 1);
+        t.due("thrown", t.does("b=9;always b=3;"), 2);
+        t.due("done", t.does("always b=3;"), 1);
 
         t = new PromiseTest("11 always is not worked there");
         t.addText(0, "always a/b;a=1;b=1;");
