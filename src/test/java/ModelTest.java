@@ -1,18 +1,18 @@
 import java.nio.ByteBuffer;
 import java.nio.charset.StandardCharsets;
 import java.util.ArrayList;
+import java.util.Collections;
 import java.util.List;
 import java.util.Random;
 
-/** Random runs of 512 calls and more: the program must answer each as the model does. */
+/** Random runs of up to 512 calls: the program must answer each as the model does. */
 public final class ModelTest {
     private static final long[] EDGES = {Long.MIN_VALUE, Long.MAX_VALUE, -1, 0, 1, 2, 3, 7};
 
     private final Random random;
-    private final MemoryTransactions x = new MemoryTransactions();
+    private final Counted x = new Counted();
     private final Model m = new Model();
     private final List<String> calls = new ArrayList<>();
-    private int count = 0;
     private static final int[] turns = new int[8];
 
     private ModelTest(long seed) {
@@ -20,7 +20,6 @@ public final class ModelTest {
     }
 
     private void same(String call, long got, long want) {
-        count++;
         calls.add(call + " = " + got);
         if (got != want) {
             calls.forEach(System.out::println);
@@ -120,57 +119,101 @@ public final class ModelTest {
         }
     }
 
+    /** All that can be asked, in a random order, as far as the calls that are left reach. */
     private void observeAll() {
-        for (int c = 0; c < 8; c++) {
-            for (int what = 0; what < 9; what++) {
-                same("client " + c + " " + what, x.client(c, what), m.client(c, what));
-            }
-            for (int letter = 0; letter < 26; letter++) {
-                same("sees " + c + " " + letter, x.sees(c, letter), m.sees(c, letter));
-            }
+        List<Integer> questions = new ArrayList<>();
+        int rows = m.rows();
+        for (int i = 0; i < 8 * 9 + 8 * 26 + 32 + 6 * (rows + 1) + 3; i++) {
+            questions.add(i);
         }
-        for (int cell = 0; cell < 16; cell++) {
-            same("cell " + cell, x.cell(cell), m.cell(cell));
-            same("version " + cell, x.version(cell), m.version(cell));
+        Collections.shuffle(questions, random);
+        for (int i = 0; i < questions.size() && x.left() > 1; i++) {
+            ask(questions.get(i), rows);
         }
-        for (int i = 0; i <= x.rows(); i++) {
-            for (int what = 0; what < 5; what++) {
-                same("row " + i + " " + what, x.row(i, what), m.row(i, what));
-            }
-            same("value " + i, x.value(i), m.value(i));
-        }
-        same("rules", x.rules(), m.rules());
-        same("rows", x.rows(), m.rows());
-        same("replays", x.replays(), m.replays());
-        same("replays is 1", x.replays(), 1);
     }
 
-    private void transactions() {
+    private void ask(int question, int rows) {
+        int q = question;
+        if (q < 8 * 9) {
+            same("client " + q / 9 + " " + q % 9, x.client(q / 9, q % 9), m.client(q / 9, q % 9));
+            return;
+        }
+        q -= 8 * 9;
+        if (q < 8 * 26) {
+            same("sees " + q / 26 + " " + q % 26, x.sees(q / 26, q % 26), m.sees(q / 26, q % 26));
+            return;
+        }
+        q -= 8 * 26;
+        if (q < 16) {
+            same("cell " + q, x.cell(q), m.cell(q));
+            return;
+        }
+        q -= 16;
+        if (q < 16) {
+            same("version " + q, x.version(q), m.version(q));
+            return;
+        }
+        q -= 16;
+        if (q < 6 * (rows + 1)) {
+            int i = q / 6;
+            int what = q % 6;
+            if (what < 5) {
+                same("row " + i + " " + what, x.row(i, what), m.row(i, what));
+            } else {
+                same("value " + i, x.value(i), m.value(i));
+            }
+            return;
+        }
+        switch (q - 6 * (rows + 1)) {
+            case 0: same("rules", x.rules(), m.rules()); break;
+            case 1: same("rows", x.rows(), m.rows()); break;
+            default: same("replays is 1", x.replays(), 1); break;
+        }
+    }
+
+    private void transactions(boolean full) {
         Texts texts = new Texts(random, true);
-        int n = 2 + random.nextInt(12);
+        int n = full ? 2 + random.nextInt(5) : 2 + random.nextInt(12);
         while (n > 0) {
             n--;
             text(random.nextInt(12) == 0 ? texts.spoiled() : texts.next());
         }
         int clients = 1 + random.nextInt(8);
         int weight = 1 << random.nextInt(9);
-        // Some go far past 512 calls: so they come to 300 rows among all that can be on its way then.
-        int most = random.nextInt(8) == 0 ? 2500 : 512;
         for (int c = 0; c < clients; c++) {
             for (int k = random.nextInt(6); k > 0; k--) {
                 int t = random.nextInt(12);
                 same("add " + c + " " + t, x.add(c, t), m.add(c, t));
             }
         }
-        while (count < most) {
+        if (full) {
+            manyRows(clients);
+        }
+        // A short run is asked about much, a long one little.
+        int asked = 5 + random.nextInt(random.nextInt(4) == 0 ? 400 : 60);
+        while (x.left() > Math.max(asked, 10)) {
             someCall(clients, weight);
         }
         observeAll();
     }
 
+    /** Nearly 300 rows, mostly of puts, so that what follows meets the last of them. */
+    private void manyRows(int clients) {
+        int till = 290 + random.nextInt(11);
+        while (m.rows() < till && x.left() > 60) {
+            if (random.nextInt(12) == 0) {
+                oneTurn(random.nextInt(clients));
+            } else {
+                int cell = random.nextInt(4) == 0 ? random.nextInt(3) : 4 + random.nextInt(9);
+                long v = someValue();
+                same("put " + cell + " " + v, x.put(cell, v), m.put(cell, v));
+            }
+        }
+    }
+
     private void faults() {
         Texts texts = new Texts(random, false);
-        for (int i = 0; i < 11; i++) {
+        for (int i = 0; i < 11 && x.left() > 50; i++) {
             text(random.nextInt(2) == 0 ? texts.spoiled() : texts.next());
             for (int what = -1; what < 4; what++) {
                 same("told " + i + " " + what, x.told(i, what), m.told(i, what));
@@ -208,7 +251,7 @@ public final class ModelTest {
                 } else if (i % 3 == 0) {
                     test.faults();
                 } else {
-                    test.transactions();
+                    test.transactions(i % 7 == 0);
                 }
             } catch (RuntimeException e) {
                 wrong++;

@@ -1,102 +1,14 @@
-import java.nio.ByteBuffer;
-import java.nio.charset.StandardCharsets;
-
 /** The promises one by one: ordinary calls, the edges that the document names, wrong arguments. */
-public final class PromiseTest {
-    private static final int NONE = MemoryTransactions.NONE;
-    private static final int A = 0;
-    private static final int B = 1;
-    private static final int C = 2;
-    private static final int P = 15;
-    private static final int Q = 16;
-    private static final int R = 17;
-    private static final int Z = 25;
-    private static final int[] WRONG = {-1, Integer.MIN_VALUE, Integer.MAX_VALUE};
-
-    private static int wrong = 0;
-    private static int checks = 0;
-
-    private final String about;
-    private final MemoryTransactions x = new MemoryTransactions();
+public final class PromiseTest extends Bench {
+    private static final int[] WRONG = {-1, LEAST, MOST};
 
     private PromiseTest(String about) {
-        this.about = about;
-    }
-
-    private void due(String call, long got, long want) {
-        checks++;
-        if (got != want) {
-            wrong++;
-            System.out.println(about + ": " + call + " answered " + got + ", due is " + want);
-        }
-    }
-
-    /** A row of answers of turn(client). */
-    private void turns(int client, int... want) {
-        for (int i = 0; i < want.length; i++) {
-            due("turn(" + client + ") no. " + i, x.turn(client), want[i]);
-        }
-    }
-
-    /** What client(client, 0 ..) answers. */
-    private void isClient(int client, int... want) {
-        for (int what = 0; what < want.length; what++) {
-            due("client(" + client + ", " + what + ")", x.client(client, what), want[what]);
-        }
-    }
-
-    private void isRow(int i, long value, int... want) {
-        for (int what = 0; what < want.length; what++) {
-            due("row(" + i + ", " + what + ")", x.row(i, what), want[what]);
-        }
-        due("value(" + i + ")", x.value(i), value);
-    }
-
-    private void feedAll(String s) {
-        byte[] all = s.getBytes(StandardCharsets.ISO_8859_1);
-        for (int at = 0; at < all.length; at += 20) {
-            int n = Math.min(20, all.length - at);
-            ByteBuffer b = ByteBuffer.allocate(20);
-            b.put(all, at, n).rewind();
-            x.feed(b.getInt(), b.getInt(), b.getInt(), b.getInt(), b.getInt());
-            x.end(n);
-        }
-    }
-
-    private int text(String s) {
-        feedAll(s);
-        return x.text();
-    }
-
-    private void addText(int client, String s) {
-        int t = text(s);
-        due("text of " + s + " is right", t >= 0 ? 1 : 0, 1);
-        due("add of " + s + " is right", x.add(client, t) > 0 ? 1 : 0, 1);
-    }
-
-    /** Client 0 does a text, alone; the answer is that of its last turn. */
-    private int does(String s) {
-        addText(0, s);
-        int answer = x.turn(0);
-        for (int i = 0; i < 400 && answer == 0; i++) {
-            answer = x.turn(0);
-        }
-        return answer;
-    }
-
-    private void isCells(long... want) {
-        for (int i = 0; i < want.length; i++) {
-            due("cell(" + i + ")", x.cell(i), want[i]);
-        }
-    }
-
-    private static String times(int n, String s) {
-        return s.repeat(n);
+        super(about);
     }
 
     private static void newObject() {
         PromiseTest t = new PromiseTest("1 a new object");
-        MemoryTransactions x = t.x;
+        Counted x = t.x;
         t.due("NONE", NONE, -1);
         for (int i = 0; i < 16; i++) {
             t.due("cell", x.cell(i), 0);
@@ -126,7 +38,7 @@ public final class PromiseTest {
 
     private static void feed() {
         PromiseTest t = new PromiseTest("2 feed");
-        MemoryTransactions x = t.x;
+        Counted x = t.x;
         for (int i = 1; i <= 40; i++) {
             t.due("feed", x.feed(i, -1, 0, Integer.MIN_VALUE, i), 20 * i);
         }
@@ -153,7 +65,7 @@ public final class PromiseTest {
 
     private static void end() {
         PromiseTest t = new PromiseTest("3 end");
-        MemoryTransactions x = t.x;
+        Counted x = t.x;
         t.due("end(0) of none", x.end(0), NONE);
         x.feed(0, 0, 0, 0, 0);
         t.due("end(-1)", x.end(-1), NONE);
@@ -383,7 +295,7 @@ public final class PromiseTest {
 
     private static void put() {
         PromiseTest t = new PromiseTest("7 put");
-        MemoryTransactions x = t.x;
+        Counted x = t.x;
         t.due("put", x.put(0, 5), 1);
         t.due("put", x.put(0, -7), 2);
         t.due("put of the same", x.put(0, -7), 3);
@@ -556,22 +468,27 @@ public final class PromiseTest {
     }
 
     private static void tooLong() {
-        PromiseTest t = new PromiseTest("11 the 301st step");
+        PromiseTest t = new PromiseTest("11 300 steps");
         t.due("300 steps", t.does("q=99;while(q){a=a+1;q=q-1;}"), 1);
         t.isRow(0, 0, 1, 0, 0, 300, 0);
-        t.due("the end as the 301st", t.does("b=7;q=99;while(q){a=a+1;q=q-1;}"), 2);
-        t.isRow(1, -3, 2, 0, 1, 301, 0);
-        t.isCells(99, 0);
-        t.due("past all trys", t.does("try{while(1){}}catch q{b=1;}"), 2);
-        t.isRow(2, -3, 2, 0, 2, 301, 0);
+        t.isCells(99);
+        t = new PromiseTest("11 the end as the 301st step");
+        t.due("thrown", t.does("b=7;q=99;while(q){a=a+1;q=q-1;}"), 2);
+        t.isRow(0, -3, 2, 0, 0, 301, 0);
+        t.isCells(0, 0);
+        t = new PromiseTest("11 the 301st step, past all trys");
+        t.due("thrown", t.does("try{while(1){}}catch q{b=1;}"), 2);
+        t.isRow(0, -3, 2, 0, 0, 301, 0);
+        t = new PromiseTest("11 the 301st step, cut");
+        t.x.put(A, 1);
         t.addText(0, "while(a){}");
         for (int i = 0; i < 300; i++) {
             t.x.turn(0);
         }
-        t.isClient(0, 2, 1, 3, 0, 300, 1);
+        t.isClient(0, 2, 1, 0, 0, 300, 1);
         t.x.put(A, 0);
         t.turns(0, 3);
-        t.isClient(0, 1, 1, 3, 1, 0, 0);
+        t.isClient(0, 1, 1, 0, 1, 0, 0);
         t.turns(0, 0, 1);
     }
 
@@ -682,18 +599,6 @@ public final class PromiseTest {
         t.isClient(0, 3, 1, 0, 0, 0, 3);
         t.x.put(B, 1);
         t.turns(0, 0, 0, 0, 0, 1);
-    }
-
-    /** Client 0 becomes urgent by four cuts of "b=a;". */
-    private void makeUrgent() {
-        addText(0, "b=a;");
-        for (int i = 1; i <= 4; i++) {
-            isClient(0, 1, 1, 0, i - 1, 0, 0, 0, 0);
-            turns(0, 0);
-            x.put(A, i);
-            turns(0, 3);
-        }
-        isClient(0, 1, 1, 0, 4, 0, 0, 0, 1);
     }
 
     private static void urgent() {
@@ -896,35 +801,62 @@ public final class PromiseTest {
     }
 
     private static void play() {
+        long seed = -77;
+        for (int n : new int[] {0, 1, 2, 7, 50, 120, 180}) {
+            samePlay(seed, n);
+            seed = seed * 31 + 5;
+        }
+        PromiseTest one = new PromiseTest("12 play, 2000 at once");
+        PromiseTest two = new PromiseTest("12 play, 2000 in parts");
+        one.fill();
+        two.fill();
+        int all = one.x.play(5, 2000);
+        int parts = 0;
+        long s = 5;
+        for (int i = 0; i < 20; i++) {
+            parts += two.x.play(s, 100);
+            for (int k = 0; k < 100; k++) {
+                s = 6364136223846793005L * s + 1442695040888963407L;
+            }
+        }
+        one.due("play", all, parts);
+        sameClients(one, two);
+        one.due("rows came", one.x.rows() > 20 ? 1 : 0, 1);
+        one.due("replays", one.x.replays(), 1);
+        for (int n : new int[] {-1, 2001, LEAST, MOST}) {
+            one.due("play(0, " + n + ")", one.x.play(0, n), NONE);
+        }
+        sameClients(one, two);
+        firstDraws();
+    }
+
+    /** A play must come to the same as its turns, one by one. */
+    private static void samePlay(long seed, int n) {
         PromiseTest one = new PromiseTest("12 play");
         PromiseTest two = new PromiseTest("12 turns");
         one.fill();
         two.fill();
-        long seed = -77;
-        for (int n : new int[] {0, 1, 2, 7, 50, 300, 2000}) {
-            int got = one.x.play(seed, n);
-            long s = seed;
-            int done = 0;
-            for (int i = 0; i < n; i++) {
-                s = 6364136223846793005L * s + 1442695040888963407L;
-                done += two.x.turn((int) (s >>> 61)) == 1 ? 1 : 0;
-            }
-            one.due("play(" + seed + ", " + n + ")", got, done);
-            for (int c = 0; c < 8; c++) {
-                for (int what = 0; what < 9; what++) {
-                    one.due("client after play", one.x.client(c, what), two.x.client(c, what));
-                }
-            }
-            one.due("rows", one.x.rows(), two.x.rows());
-            seed = seed * 31 + 5;
+        int got = one.x.play(seed, n);
+        long s = seed;
+        int done = 0;
+        for (int i = 0; i < n; i++) {
+            s = 6364136223846793005L * s + 1442695040888963407L;
+            done += two.x.turn((int) (s >>> 61)) == 1 ? 1 : 0;
         }
-        one.due("rows came", one.x.rows() > 20 ? 1 : 0, 1);
-        one.due("replays", one.x.replays(), 1);
-        one.due("play(0, -1)", one.x.play(0, -1), NONE);
-        one.due("play(0, 2001)", one.x.play(0, 2001), NONE);
-        one.due("play(0, least)", one.x.play(0, Integer.MIN_VALUE), NONE);
-        one.due("play(0, most)", one.x.play(0, Integer.MAX_VALUE), NONE);
+        one.due("play(" + seed + ", " + n + ")", got, done);
+        sameClients(one, two);
+    }
 
+    private static void sameClients(PromiseTest one, PromiseTest two) {
+        for (int c = 0; c < 8; c++) {
+            for (int what = 0; what < 9; what++) {
+                one.due("client after play", one.x.client(c, what), two.x.client(c, what));
+            }
+        }
+        one.due("rows", one.x.rows(), two.x.rows());
+    }
+
+    private static void firstDraws() {
         PromiseTest t = new PromiseTest("12 play, the first draws");
         t.text("");
         t.x.add(0, 0);
@@ -1117,9 +1049,6 @@ public final class PromiseTest {
         tellsRows();
         replays();
         clear();
-        System.out.println(wrong == 0 ? checks + " answers are as due" : wrong + " answers are not as due");
-        if (wrong != 0) {
-            System.exit(1);
-        }
+        finish();
     }
 }
