@@ -303,6 +303,14 @@ public final class CallEdgeTest extends Bench {
             t.due("steps", t.x.client(c, 4), drawn[c] % 301);
         }
         t.due("the last is drawn", drawn[last] > 0 ? 1 : 0, 1);
+        t = new CallEdgeTest("Promise 12: n TURNS: with 300 ROWS, too");
+        t.text("while(1){}");
+        for (int c = 0; c < 8; c++) {
+            t.x.add(c, 0);
+        }
+        t.putRows(300);
+        t.due("play(7, 40)", t.x.play(7, 40), 0);
+        t.due("40 turns", steps(t), 40);
         t = new CallEdgeTest("Promise 12: NONE: another n");
         t.text("");
         for (int c = 0; c < 8; c++) {

@@ -570,6 +570,54 @@ public final class TextEdgeTest extends Bench {
         t.due("texts stay in clear", t.x.text(), NONE);
     }
 
+    private static void behindFaults() {
+        TextEdgeTest t = new TextEdgeTest("Promise 4: -2 with a FAULT: nothing of it is left in the next text");
+        String many = "a=1" + times(59, "+1") + ";";
+        for (int i = 0; i < 6; i++) {
+            t.due("a fault", t.text(many + "b"), -2);
+        }
+        t.due("done", t.does("b=2;" + "a=1" + times(50, "+1") + ";"), 1);
+        t.isCells(51, 2);
+        t.isVersions(1, 1);
+        t = new TextEdgeTest("Promise 4: -2 with a FAULT: none of its bodies is left in the next text");
+        t.due("a fault", t.text("if(0){a=1;}else{a=2;}if(1){a=3;}a=4;try{a=5;}catch q{a=6;}always 0;b"), -2);
+        t.due("done", t.does("if(0){}if(1){}b=1;try{throw 1;}catch r{}c=r;"), 1);
+        t.isCells(0, 1, 1);
+        t.isRow(0, 0, 1, 0, 0, 7, 0);
+        t.due("rules", t.x.rules(), 0);
+        t = new TextEdgeTest("Promise 4: one text leaves nothing in the next, nor that in it");
+        t.text("if(0){a=1;}else{a=2;}always a<3;");
+        t.text("if(0){b=1;}");
+        t.text("");
+        for (int i : new int[] {1, 2, 0, 1}) {
+            t.x.add(0, i);
+        }
+        t.turns(0, 0, 1, 1, 0, 0, 0, 1, 0, 1);
+        t.isCells(2, 0);
+    }
+
+    private static void bytesBehind() {
+        String s = "Promise 3: what end takes away is no part of the text";
+        String[] fed = {"aaaaaaaaaaaaaaaaaaaa", "a=123456789000000000", "a=1;b=2;c=3;d=4;e=5;", "if(1){}else{a=1;}   ", "retryretry;         "};
+        int[] stay = {1, 11, 3, 8, 5};
+        int[] fault = {1, 11, 3, 8, 5};
+        for (int i = 0; i < fed.length; i++) {
+            TextEdgeTest t = new TextEdgeTest(s);
+            t.feedAll(fed[i]);
+            t.due("end", t.x.end(stay[i]), stay[i]);
+            t.due("text of " + fed[i], t.x.text(), -2);
+            t.due("place in " + fed[i], t.x.place(), fault[i]);
+        }
+        s = "or at the text's length, of 800 bytes";
+        fault(s, times(797, " ") + "a=1", 800);
+        fault(s, times(799, " ") + "a", 800);
+        fault(s, times(798, " ") + "aa", 798);
+        fault(s, times(794, " ") + "always", 800);
+        fault(s, times(790, " ") + "1234567890", 790);
+        fault(s, times(788, " ") + "a=1234567890", 790);
+        right(s, times(796, " ") + "a=1;");
+    }
+
     private static void place() {
         TextEdgeTest t = new TextEdgeTest("Promise 5: Where THE FAULT of the latest text() that was read lies; NONE");
         t.due("before all", t.x.place(), NONE);
@@ -637,6 +685,8 @@ public final class TextEdgeTest extends Bench {
         feed();
         end();
         text();
+        behindFaults();
+        bytesBehind();
         place();
         told();
         finish();
