@@ -1,3 +1,6 @@
+import java.util.ArrayList;
+import java.util.List;
+
 /** The edges of chapter 3 (ROWS) and of the promises 7 to 20: each test bears the sentence of the document that names the edge. */
 public final class CallEdgeTest extends Bench {
     private static final int[] NO_CELLS = {-1, 16, 17, 25, LEAST, MOST};
@@ -627,6 +630,68 @@ public final class CallEdgeTest extends Bench {
         t.isCells(4, -5, 8);
     }
 
+    /** All that can be seen of clients, cells, rules and rows, and of the letters of two clients. */
+    private List<Long> seen() {
+        List<Long> all = new ArrayList<>();
+        for (int c = 0; c < 8; c++) {
+            for (int what = 0; what < 9; what++) {
+                all.add((long) x.client(c, what));
+            }
+        }
+        for (int cell = 0; cell < 16; cell++) {
+            all.add(x.cell(cell));
+            all.add((long) x.version(cell));
+        }
+        for (int letter = 0; letter < 26; letter++) {
+            all.add(x.sees(1, letter));
+        }
+        all.add((long) x.rules());
+        all.add((long) x.rows());
+        all.add((long) x.place());
+        all.add((long) x.told(11, 0));
+        all.add((long) x.replays());
+        return all;
+    }
+
+    private static void refused() {
+        CallEdgeTest t = new CallEdgeTest("a call that is refused leaves all as it was");
+        t.due("a rule", t.does("always f<9;"), 1);
+        t.makeUrgent();
+        t.addText(1, "q=c+1;d=q;always 1;r=1;");
+        t.turns(1, 0, 0, 0);
+        t.addText(2, "if(e=0){retry;}");
+        t.turns(2, 0, 4);
+        for (int i = 4; i < 12; i++) {
+            t.due("text", t.x.text(), i);
+        }
+        for (int i = 1; i <= 16; i++) {
+            t.due("add", t.x.add(3, 11), i);
+        }
+        t.feedAll("a=1;a=1;a=1;a=1;   ");
+        List<Long> before = t.seen();
+        for (int n : new int[] {0, 19, 20, -1, 21}) {
+            t.due("end(" + n + ")", t.x.end(n), NONE);
+        }
+        t.due("text", t.x.text(), NONE);
+        t.due("put(16)", t.x.put(16, 1), NONE);
+        t.due("put(-1)", t.x.put(-1, 1), NONE);
+        t.due("put(f, 9)", t.x.put(5, 9), -2);
+        t.due("add(8, 0)", t.x.add(8, 0), NONE);
+        t.due("add(0, 12)", t.x.add(0, 12), NONE);
+        t.due("add(0, -1)", t.x.add(0, -1), NONE);
+        t.due("the 17th", t.x.add(3, 0), NONE);
+        t.turns(-1, NONE);
+        t.turns(8, NONE);
+        t.turns(4, 5);
+        t.turns(2, 4);
+        t.turns(3, 6);
+        t.due("play(1, -1)", t.x.play(1, -1), NONE);
+        t.due("play(1, 2001)", t.x.play(1, 2001), NONE);
+        t.due("play(1, 0)", t.x.play(1, 0), 0);
+        t.due("all is as it was", t.seen().equals(before) ? 1 : 0, 1);
+        t.due("the tape", t.x.feed(0, 0, 0, 0, 0), 39);
+    }
+
     public static void main(String[] args) {
         put();
         cells();
@@ -638,6 +703,7 @@ public final class CallEdgeTest extends Bench {
         rows();
         replays();
         clear();
+        refused();
         finish();
     }
 }

@@ -1,3 +1,8 @@
+import java.util.HashSet;
+import java.util.Set;
+import java.util.regex.Matcher;
+import java.util.regex.Pattern;
+
 /**
  * The edges of chapter 1 (TEXTS) and of the promises 1 to 6: each test bears the sentence of the document that names
  * the edge.
@@ -162,7 +167,7 @@ public final class TextEdgeTest extends Bench {
         // Each | stands where the text may end.
         String marked = "|a=1;|if(a<1){q=-(b+2)*c/3%d#e;b=2-1=0;}|else{}|while(1){retry;}|either{throw 1;}or{}|try{always p;}catch z{}|";
         String all = marked.replace("|", "");
-        java.util.Set<Integer> whole = new java.util.HashSet<>();
+        Set<Integer> whole = new HashSet<>();
         int bars = 0;
         for (int i = 0; i < marked.length(); i++) {
             if (marked.charAt(i) == '|') {
@@ -170,7 +175,7 @@ public final class TextEdgeTest extends Bench {
                 bars++;
             }
         }
-        java.util.regex.Matcher tokens = java.util.regex.Pattern.compile("[a-z]+|[0-9]+|[^ ]").matcher(all);
+        Matcher tokens = Pattern.compile("[a-z]+|[0-9]+|[^ ]").matcher(all);
         while (tokens.find()) {
             int at = tokens.end();
             read(s, all.substring(0, at), whole.contains(at) ? NONE : at);
