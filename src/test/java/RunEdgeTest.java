@@ -157,6 +157,12 @@ public final class RunEdgeTest extends Bench {
         done(s, "if(1){}else{a=1;}b=1;", 3, 0, 1);
         done(s, "while(0){a=1;}b=1;", 3, 0, 1);
         done(s, "q=1;while(q){try{throw 0;}catch q{}}a=1;", 7, 1);
+        t = new RunEdgeTest(s + ": of an empty body, too");
+        t.addText(0, "c=c+1;if(1){d=d+1;while(c){}}");
+        t.turns(0, 0, 0, 0, 0, 0, 0, 0);
+        t.isClient(0, 2, 1, 0, 0, 7, 12, 12);
+        t.due("sees c", t.x.sees(0, C), 1);
+        t.due("sees d", t.x.sees(0, D), 1);
         s = "if and while go by whether their exp is 0";
         done(s, "if(1){a=1;}if(-1){b=1;}if(0){c=1;}", 6, 1, 1, 0);
         done(s, "q=-1;while(q){q=q+1;a=a+1;}", 6, 1);
