@@ -261,7 +261,8 @@ public final class ModelTest {
         }
         for (int i = 0; i < turns.length; i++) {
             System.out.println("turns that answered " + (i - 1) + ": " + turns[i]);
-            if (turns[i] == 0) {
+            // A few runs of one's own need not meet all of them.
+            if (turns[i] == 0 && args.length == 0) {
                 wrong++;
                 System.out.println("no random run met this answer");
             }
